@@ -24,9 +24,9 @@ public final class BenchOrders {
     private final Unit unit;
     private final State now;
     private final History history;
-    private int badCalls;
-    private int noCalls;
-    private int fullCalls;
+    private int badCalls = 0;
+    private int noCalls = 0;
+    private int fullCalls = 0;
 
     public BenchOrders() {
         text = new Text();
@@ -34,9 +34,6 @@ public final class BenchOrders {
         unit = new Unit();
         now = new State();
         history = new History();
-        badCalls = 0;
-        noCalls = 0;
-        fullCalls = 0;
     }
 
     // ---- the tree
