@@ -117,17 +117,23 @@ public final class LanguageTest {
 
     private static void methodsAreShort(String code) {
         String[] lines = code.split("\n");
-        int start = 0;
+        int depth = 0;
+        int start = -1;
+        int outside = 0;
+        int methods = 0;
         for (int i = 0; i < lines.length; i++) {
-            if (lines[i].matches("\\s+(public |private |static )*[A-Za-z\\[\\]]* ?\\w+\\([^;]*\\) \\{") && !lines[i].matches("\\s+(if|for|while|switch|\\}).*")) {
+            if (start < 0 && lines[i].endsWith(") {")) {
                 start = i;
+                outside = depth;
+                methods++;
             }
-            if (lines[i].matches("( {4}| {8})\\}") && i - start > 40) {
-                boolean isClassEnd = lines[i].equals("    }") && lines[i - 1].equals("        }");
-                Bench.due("lines of the method at line " + (start + 1) + ": " + (i - start), isClassEnd ? 0 : 1, 0);
+            depth += lines[i].replaceAll("[^{]", "").length() - lines[i].replaceAll("[^}]", "").length();
+            if (start >= 0 && depth == outside) {
+                Bench.due("lines of '" + lines[start].trim() + "': " + (i - start + 1), i - start < 60 ? 1 : 0, 1);
+                start = -1;
             }
-            start = lines[i].matches("( {4}| {8})\\}") ? i : start;
         }
+        Bench.due("methods are seen: " + methods, methods > FACE.size() ? 1 : 0, 1);
     }
 
     /** Objects are made by constructors and at the fields alone, so that a run's room does not fill. */
