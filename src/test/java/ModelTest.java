@@ -14,13 +14,14 @@ public final class ModelTest {
     private BenchOrders x;
     private Model y;
     private StringBuilder log;
+    private int calls;
 
     private ModelTest(long seed) {
         random = new Random(seed);
     }
 
     public static void main(String[] args) {
-        int runs = args.length > 0 ? Integer.parseInt(args[0]) : 1000;
+        int runs = args.length > 0 ? Integer.parseInt(args[0]) : 8000;
         for (int seed = 1; seed <= runs && Bench.wrong < 10; seed++) {
             new ModelTest(seed).run();
         }
@@ -35,9 +36,9 @@ public final class ModelTest {
         for (int i = 0; i < nodes; i++) {
             makeNode();
         }
-        int rounds = 10 + random.nextInt(60);
         int wrong = Bench.wrong;
-        for (int i = 0; i < rounds && Bench.wrong == wrong; i++) {
+        // What the 513th call of an object answers is free; a round has at most 250.
+        while (calls <= 512 - 250 && Bench.wrong == wrong) {
             if (random.nextInt(3) > 0) {
                 typeText(message());
                 due("sends()", x.sends(), y.sends());
@@ -50,6 +51,7 @@ public final class ModelTest {
     }
 
     private void due(String call, long got, long want) {
+        calls++;
         log.append(call).append(' ');
         if (got != want) {
             Bench.due(log + "\n  " + call, got, want);
@@ -63,6 +65,7 @@ public final class ModelTest {
     private void typeText(String s) {
         due("clear()", x.clear(), y.clear());
         for (char c : s.toCharArray()) {
+            calls++;
             int got = x.type(c);
             if (got != y.type(c)) {
                 due("type(" + (int) c + ")", got, -1);
@@ -82,8 +85,8 @@ public final class ModelTest {
 
     private int branch() {
         for (int i = 0; i < 8; i++) {
-            int p = random.nextInt(x.state(13));
-            if (x.of(p, 1) == 0) {
+            int p = random.nextInt(y.state(13));
+            if (y.of(p, 1) == 0) {
                 return sameOf(p);
             }
         }
@@ -125,10 +128,10 @@ public final class ModelTest {
         if (random.nextInt(3) == 0) {
             b.append('*').append(random.nextBoolean() ? pick(COMMON) : pick(COMMON).toLowerCase());
             value = value && random.nextInt(3) == 0 || b.toString().matches(".*(?i)(ESE|SRE)") && !ask;
-        } else if (x.state(13) > 1 && random.nextInt(8) > 0) {
-            int n = 1 + random.nextInt(x.state(13) - 1);
+        } else if (y.state(13) > 1 && random.nextInt(8) > 0) {
+            int n = 1 + random.nextInt(y.state(13) - 1);
             b.append(pathOf(n));
-            boolean isValue = x.of(n, 1) == 1;
+            boolean isValue = y.of(n, 1) == 1;
             value = random.nextInt(8) == 0 ? value : isValue && !ask;
         } else {
             b.append(random.nextInt(3) == 0 ? ":" : "").append(row(random.nextInt(5) == 0 ? 1 + random.nextInt(5) : 1));
@@ -144,12 +147,12 @@ public final class ModelTest {
     private String pathOf(int n) {
         String path = "";
         int most = 0;
-        for (int at = n; at > 0 && most < 16; at = x.of(at, 0), most++) {
-            if (x.of(at, 3) == 1 && random.nextBoolean() && !path.isEmpty()) {
+        for (int at = n; at > 0 && most < 16; at = y.of(at, 0), most++) {
+            if (y.of(at, 3) == 1 && random.nextBoolean() && !path.isEmpty()) {
                 continue;
             }
             String name = nameOf(at);
-            int m = x.of(at, 2);
+            int m = y.of(at, 2);
             String figure = m > 0 && random.nextInt(3) == 0 ? "" + (1 + random.nextInt(m)) : "";
             path = name + figure + (path.isEmpty() ? "" : ":" + path);
         }
@@ -160,7 +163,7 @@ public final class ModelTest {
     private String nameOf(int n) {
         for (int i = 0; i < 40; i++) {
             String name = pick(NAMES);
-            if (name.length() == x.of(n, 7) && name.replaceAll("[a-z]", "").length() == x.of(n, 6)) {
+            if (name.length() == y.of(n, 7) && name.replaceAll("[a-z]", "").length() == y.of(n, 6)) {
                 return random.nextBoolean() ? name.toLowerCase() : name.replaceAll("[a-z]", "");
             }
         }
@@ -182,6 +185,8 @@ public final class ModelTest {
         if (random.nextInt(40) == 0) {
             b.setLength(random.nextInt(b.length() + 1));
         }
+        // A few bytes more than THE TEXT takes.
+        b.setLength(Math.min(b.length(), 103));
         return b.toString();
     }
 

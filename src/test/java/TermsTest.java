@@ -153,24 +153,31 @@ public final class TermsTest {
         }
     }
 
-    private static void unitsThatCannotStand() {
+    private static Bench valueAndAct() {
         Bench b = new Bench();
         b.node(0, "X", 1, 3, 0);
         b.node(0, "A", 2, 3, 0);
+        return b;
+    }
+
+    private static void unitsThatCannotStand() {
         String[] wrong = {
             "", " ", "   ", ";", " ; ", ":", "::X 1", ": X 1", "X: 1", "X : X", "X ?", "X?5", "X??", "X?? 1", "X ? 1", "X1 1 1",
             "X +", "X -", "X +-1", "X 1+", "X 1 K", "X K", "X 1KK", "X 1M", "X +ON", "X ONK", "X ON1", "X O", "X OF", "X ONN",
-            "X OFFF", "X AN", "X NO", "X AFF", "X 1234567", "X 0000001", "X -1234567K", "X 1.5", "X 1,2", "X\t1", "X 1\t", "\tX 1", "X12 1", "X0 1", "X10 1",
+            "X OFFF", "X AN", "X NO", "X AFF", "X 1234567", "X 0000001", "X -1234567K", "X 1.5", "X 1,2", "X\t1",
+            "X 1\t", "\tX 1", "X12 1", "X0 1", "X10 1",
             "1", "1 X", "?", "X+1", "X-1", "X,1", "ABCDEFGHI 1", "X:ABCDEFGHI", "A:B:C:D:E", ":A:B:C:D:E", "A:B:C:D:", "*", "* CLS",
             "*CLS1", "*ABCDEFGHI", "**CLS", ":*CLS", "*CLS:X", "*CLS ?", "*ESE5", "*ESE?5", "X:*CLS", "X 1 ?", "X @", "X [", "@", "[",
             "X \u0000", "\u007f", "A ON OFF", "A2:", "X  ;", "X 1K0", "X #1"
         };
         for (String message : wrong) {
             boolean isMissing = message.equals("X  ;");
-            b.dueAlone(message, 0, isMissing ? -109 : -102);
+            Bench each = valueAndAct();
+            each.dueSent(message, 0, isMissing ? -109 : -102);
+            each.dueAnswers("behind '" + message + "'");
+            each.dueNumbers("behind '" + message + "'", 1, 0, 0, 0);
         }
-        b.dueState("nothing was set", 11, 0);
-        due("X", b.it.value(1, 1), 0);
+        Bench b = valueAndAct();
         b.dueAlone("X 1;", 1, -102);
         b.dueAlone("X 2; ", 1, -102);
         b.dueAlone("X 3;;X 4", 1, -102);
@@ -338,8 +345,8 @@ public final class TermsTest {
 
     private static void commonForms() {
         Bench b = new Bench();
-        String[] wrong = {"*CLS?", "*RST?", "*ESR", "*STB", "*FOO", "*FOO?", "*CL", "*CLSS", "*C", "*ESEE 1", "*IDN?", "*ABCDEFGH", "*XLS", "*XSE 1", "*XRE 1", "*XSR?", "*XTB?",
-            "*XPC", "*XST"};
+        String[] wrong = {"*CLS?", "*RST?", "*ESR", "*STB", "*FOO", "*FOO?", "*CL", "*CLSS", "*C", "*ESEE 1", "*IDN?", "*ABCDEFGH",
+            "*XLS", "*XSE 1", "*XRE 1", "*XSR?", "*XTB?", "*XPC", "*XST"};
         for (String message : wrong) {
             b.dueAlone(message, 0, -113);
         }
