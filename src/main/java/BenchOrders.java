@@ -232,7 +232,7 @@ public final class BenchOrders {
         for (int what = 0; what <= 13; what++) {
             h = 31L * h + now.reading(what);
         }
-        for (int n = 0; n < now.nodes; n++) {
+        for (int n = 0; n < now.nodes && n < NODES_MOST; n++) {
             h = digestNode(h, n);
         }
         h = now.answers.digestFrom(h);
